@@ -86,7 +86,7 @@ public final class DualRing {
             return false;
         }
         stations[s].on = on;
-        // The rings come first: a frame that is being sent must still be in its queue to be lost.
+        // The rings come first: a frame that is being sent is lost out of its queue, before that is emptied.
         findRings();
         if (!on) {
             stations[s].leaveRing();

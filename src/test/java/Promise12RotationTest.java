@@ -50,7 +50,7 @@ public final class Promise12RotationTest {
 
     private static void staysWhenTheRingClaims() {
         DualRing x = new DualRing(2);
-        x.tick(9);
+        x.tick(10);
         x.cable(1, false);
         x.tick(4);
         due.real("rotation(0)", x.rotation(0), 1.1875);
