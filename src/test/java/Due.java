@@ -1,7 +1,15 @@
 /** Compares answers with those that are due, prints those that are not, and ends the test. */
 final class Due {
+    private String words = "";
+    private int sentences;
     private int checks;
     private int wrong;
+
+    /** The document's words that the answers behind this call hold to. */
+    void sentence(String words) {
+        this.words = "\"" + words + "\": ";
+        sentences++;
+    }
 
     void is(String call, long got, long want) {
         note(call, got == want, Long.toString(got), Long.toString(want));
@@ -9,6 +17,10 @@ final class Due {
 
     void real(String call, double got, double want) {
         note(call, Double.compare(got, want) == 0, Double.toString(got), Double.toString(want));
+    }
+
+    void text(String what, String got, String want) {
+        note(what, got.equals(want), got, want);
     }
 
     void yes(String call, boolean got) {
@@ -24,7 +36,8 @@ final class Due {
     }
 
     void end() {
-        System.out.println(checks + " answers, " + wrong + " not as due");
+        String of = sentences == 0 ? "" : sentences + " sentences, ";
+        System.out.println(of + checks + " answers, " + wrong + " not as due");
         if (wrong != 0 || checks == 0) {
             System.exit(1);
         }
@@ -34,7 +47,7 @@ final class Due {
         checks++;
         if (!right) {
             wrong++;
-            System.out.println(call + " answered " + got + ", due is " + want);
+            System.out.println(words + call + " answered " + got + ", due is " + want);
         }
     }
 }

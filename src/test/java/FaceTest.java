@@ -61,12 +61,18 @@ public final class FaceTest {
     private static void callsMakeNoObjects() {
         com.sun.management.ThreadMXBean threads =
             (com.sun.management.ThreadMXBean) ManagementFactory.getThreadMXBean();
-        DualRing x = new DualRing(6);
-        callEverything(x);
+        DualRing[] all = new DualRing[50];
+        for (int i = 0; i < all.length; i++) {
+            all[i] = new DualRing(6);
+        }
+        callEverything(new DualRing(6));
         long id = Thread.currentThread().getId();
         long before = threads.getThreadAllocatedBytes(id);
-        for (int i = 0; i < 500; i++) {
-            callEverything(x);
+        for (DualRing x : all) {
+            // Ten rounds are 480 calls, and an object is used for at most 512.
+            for (int i = 0; i < 10; i++) {
+                callEverything(x);
+            }
         }
         long made = threads.getThreadAllocatedBytes(id) - before;
         // One object in each round would be at least 8,000 bytes; the measuring itself makes a few.

@@ -1,12 +1,14 @@
 import java.util.ArrayDeque;
 import java.util.Random;
 
-/** Long runs of mixed calls, each answer compared with the plain model's. */
+/** Runs of mixed calls, each answer compared with the plain model's. */
 public final class PlainModelTest {
-    private static final int RUNS = 3000;
-    private static final int CALLS = 512;
+    private static final int RUNS = 30000;
 
-    /** Kinds of runs: how many of 100 calls change a cable or a station, and how many ticks go by at once. */
+    /** An object is used for at most 512 calls; the last comparison of all its answers takes 153. */
+    private static final int CALLS = 512 - 153;
+
+    /** Kinds of runs: how many of 100 changes are of a cable or a station, and how many ticks go by at once. */
     private static final int[][] KINDS = {{1, 3}, {4, 12}, {15, 6}, {40, 30}, {0, 5}};
 
     private static final Due due = new Due();
@@ -27,14 +29,19 @@ public final class PlainModelTest {
         int n = random.nextInt(20) == 0 ? random.nextInt(20) - 5 : 2 + random.nextInt(5);
         int[] kind = KINDS[run % KINDS.length];
         int shortest = random.nextInt(3) == 0 ? 4 : 10;
+        int length = 1 + random.nextInt(CALLS);
         DualRing x = new DualRing(n);
         PlainModel y = new PlainModel(n);
         ArrayDeque<String> calls = new ArrayDeque<>();
         calls.add("new DualRing(" + n + ")");
-        for (int i = 0; i < CALLS && due.allWell(); i++) {
-            calls.add(change(x, y, random, kind, shortest));
-            compareAll(x, y, reached);
+        for (int i = 0; i < length && due.allWell(); i++) {
+            if (random.nextInt(10) < 7) {
+                calls.add(change(x, y, random, kind, shortest));
+            } else {
+                ask(x, y, random);
+            }
         }
+        compareAll(x, y, reached);
         if (!due.allWell()) {
             System.out.println("run " + run + ": " + calls);
         }
@@ -76,6 +83,22 @@ public final class PlainModelTest {
     private static String same(String call, boolean got, boolean want) {
         due.is(call, got ? 1 : 0, want ? 1 : 0);
         return call;
+    }
+
+    private static void ask(DualRing x, PlainModel y, Random random) {
+        int s = station(random);
+        switch (random.nextInt(7)) {
+            case 0 -> due.is("ring", x.ring(s), y.ring(s));
+            case 1 -> due.is("state", x.state(s), y.state(s));
+            case 2 -> due.is("operating", x.operating(s), y.operating(s));
+            case 3 -> due.real("rotation", x.rotation(s), y.rotation(s));
+            case 4 -> due.real("share", x.share(s), y.share(s));
+            case 5 -> due.is("longest", x.longest(), y.longest());
+            default -> {
+                int what = random.nextInt(14) - 1;
+                due.is("station", x.station(s, what), y.station(s, what));
+            }
+        }
     }
 
     private static void compareAll(DualRing x, PlainModel y, int[] reached) {
