@@ -69,7 +69,8 @@ public final class EdgesOfAnswersTest {
     }
 
     private static void statesOfAStation() {
-        due.sentence("1 it claims, 2 it operates and the token is elsewhere, 3 the token is at s, 4 the token is at s, which sends");
+        due.sentence("1 it claims, 2 it operates and the token is elsewhere, 3 the token is at s, "
+            + "4 the token is at s, which sends");
         DualRing x = new DualRing(2);
         x.send(0, 1, 1, 2);
         x.send(0, 1, 1, 2);
@@ -265,13 +266,15 @@ public final class EdgesOfAnswersTest {
         x.tick(5);
         x.power(1, true);
         x.send(1, 0, 10, 2);
-        // The ring is closed: the claim takes 4 ticks, 1 wins, and the token is at 0 with the fifth and at 1 with the seventh.
+        // The ring is closed, the claim takes 4 ticks, and 1 wins: the token is at 0 with the fifth tick,
+        // and at 1 with the seventh.
         x.tick(4 + 1 + 2);
         due.is("state(1)", x.state(1), 3);
         x.tick(10);
         x.send(0, 1, 5, 2);
         x.cable(0, false);
-        // The row is 1 0, and 1 wins: the token is at 0 with the fifth tick, and at 1 behind the frame with the 13th.
+        // The row is 1 0, and 1 wins: the token is at 0 with the fifth tick, and at 1, behind the frame,
+        // with the 13th.
         x.tick(4 + 1);
         due.is("longest(): 0 for the first time since then", x.longest(), 2);
         x.tick(8);

@@ -16,11 +16,15 @@ public final class RefusedCallTest {
 
     private static final Due due = new Due();
 
-    /** An object of so many stations in some state; the bits of cut and off tell cables and stations. */
-    private record Scene(String name, int count, int cut, int off, boolean full, Consumer<DualRing> rest) {
+    /** An object whose stations are in these states; the bits of cut and off tell cables and stations. */
+    private record Scene(String name, String states, int cut, int off, boolean full, Consumer<DualRing> rest) {
+        int count() {
+            return states.length();
+        }
+
         DualRing make() {
-            DualRing x = new DualRing(count);
-            for (int s = 0; s < count; s++) {
+            DualRing x = new DualRing(count());
+            for (int s = 0; s < count(); s++) {
                 x.bid(s, 24 + s);
                 x.allot(s, 3 + s);
                 if (isCut(s)) {
@@ -31,7 +35,7 @@ public final class RefusedCallTest {
                 }
             }
             if (full) {
-                fillQueues(x, count);
+                fillQueues(x, count());
             }
             rest.accept(x);
             return x;
@@ -51,9 +55,10 @@ public final class RefusedCallTest {
     public static void main(String[] args) {
         due.sentence("A call that is refused changes nothing.");
         for (Scene scene : scenes()) {
+            due.text(scene.name + ": states", statesOf(scene.make(), scene.count()), scene.states);
             List<Call> calls = refusedCalls(scene);
             if (scene.full) {
-                addSendsToFullQueues(calls, scene.count);
+                addSendsToFullQueues(calls, scene.count());
             }
             for (Call call : calls) {
                 due.no(scene.name + ": " + call.name, call.make.test(scene.make()));
@@ -70,52 +75,60 @@ public final class RefusedCallTest {
     private static List<Scene> scenes() {
         List<Scene> all = new ArrayList<>();
         for (int n = 2; n <= 6; n++) {
-            all.add(new Scene("new, of " + n, n, 0, 0, false, x -> { }));
+            all.add(new Scene("new, of " + n, "1".repeat(n), 0, 0, false, x -> { }));
         }
-        all.add(new Scene("it claims", 4, 0, 0, false, x -> {
+        all.add(new Scene("it claims", "1111", 0, 0, false, x -> {
             x.send(1, 2, 3, 3);
             x.tick(7);
         }));
-        all.add(new Scene("the token is on a long hop", 4, 8, 0, false, x -> {
+        all.add(new Scene("the token is on a long hop", "2222", 8, 0, false, x -> {
             x.bid(3, 20);
             x.tick(8 + 2);
         }));
-        all.add(new Scene("the token is at a station", 3, 0, 0, false, x -> {
+        all.add(new Scene("the token is at a station", "232", 0, 0, false, x -> {
             x.send(1, 2, 3, 3);
             x.send(1, 2, 3, 2);
             x.tick(7);
         }));
-        all.add(new Scene("a station sends", 3, 0, 0, false, x -> {
+        all.add(new Scene("a station sends", "242", 0, 0, false, x -> {
             x.send(1, 2, 3, 3);
             x.send(1, 0, 4, 1);
             x.tick(9);
         }));
-        all.add(new Scene("an asynchronous frame, and a synchronous one waits", 3, 0, 0, false, x -> {
+        all.add(new Scene("an asynchronous frame, and a synchronous one waits", "242", 0, 0, false, x -> {
             x.send(1, 2, 6, 2);
             x.tick(9);
             x.send(1, 0, 2, 3);
             x.send(1, 0, 2, 0);
         }));
-        all.add(new Scene("stations are late once", 6, 0, 0, false, x -> {
+        all.add(new Scene("stations are late once", "222222", 0, 0, false, x -> {
             x.bid(5, 4);
             x.tick(18);
         }));
-        all.add(new Scene("of two rings one claims, in the other a station sends", 6, 2 + 8, 0, false, x -> {
+        all.add(new Scene("of two rings one claims, in the other a station sends", "112411", 2 + 8, 0, false, x -> {
             x.send(0, 1, 9, 2);
             x.send(3, 2, 5, 3);
             x.tick(7);
         }));
-        all.add(new Scene("stations are off", 5, 4, 1 + 8, false, x -> {
+        all.add(new Scene("stations are off", "02202", 4, 1 + 8, false, x -> {
             x.tick(6);
             x.send(3, 1, 2, 2);
             x.send(1, 3, 2, 2);
         }));
-        all.add(new Scene("all are off", 2, 0, 3, false, x -> x.tick(3)));
-        all.add(new Scene("full queues", 3, 0, 0, true, x -> { }));
-        all.add(new Scene("full queues, the first frame is being sent", 3, 0, 0, true, x -> x.tick(8)));
-        all.add(new Scene("full queues, parted", 4, 1 + 4, 0, true, x -> x.tick(5)));
-        all.add(new Scene("full queues, off", 3, 0, 2, true, x -> x.tick(1)));
+        all.add(new Scene("all are off", "00", 0, 3, false, x -> x.tick(3)));
+        all.add(new Scene("full queues", "111", 0, 0, true, x -> { }));
+        all.add(new Scene("full queues, the first frame is being sent", "242", 0, 0, true, x -> x.tick(8)));
+        all.add(new Scene("full queues, parted", "2232", 1 + 4, 0, true, x -> x.tick(5)));
+        all.add(new Scene("full queues, off", "101", 0, 2, true, x -> x.tick(1)));
         return all;
+    }
+
+    private static String statesOf(DualRing x, int count) {
+        StringBuilder states = new StringBuilder();
+        for (int s = 0; s < count; s++) {
+            states.append(x.state(s));
+        }
+        return states.toString();
     }
 
     private static void fillQueues(DualRing x, int count) {
@@ -129,7 +142,7 @@ public final class RefusedCallTest {
 
     private static List<Call> refusedCalls(Scene scene) {
         List<Call> calls = new ArrayList<>();
-        int n = scene.count;
+        int n = scene.count();
         for (int none : new int[] {MIN, -1, n, 6, MAX}) {
             calls.add(new Call("bid(" + none + ", 9)", x -> x.bid(none, 9)));
             calls.add(new Call("allot(" + none + ", 9)", x -> x.allot(none, 9)));
@@ -150,7 +163,7 @@ public final class RefusedCallTest {
     }
 
     private static void addRefusedOfStation(List<Call> calls, Scene scene, int s) {
-        int target = (s + 1) % scene.count;
+        int target = (s + 1) % scene.count();
         for (int t : new int[] {MIN, 0, 3, 61, MAX}) {
             calls.add(new Call("bid(" + s + ", " + t + ")", x -> x.bid(s, t)));
         }
@@ -188,12 +201,12 @@ public final class RefusedCallTest {
     }
 
     private static void changeNothingLater(Scene scene, List<Call> calls, int ticks) {
-        String want = lookLater(scene.make(), scene.count, ticks);
+        String want = lookLater(scene.make(), scene.count(), ticks);
         for (Call call : calls) {
             DualRing x = scene.make();
             call.make.test(x);
             String what = scene.name + ": " + call.name + ", " + ticks + " ticks later";
-            due.text(what, lookLater(x, scene.count, ticks), want);
+            due.text(what, lookLater(x, scene.count(), ticks), want);
         }
     }
 
@@ -205,11 +218,11 @@ public final class RefusedCallTest {
     }
 
     private static void changeNothingHidden(Scene scene, List<Call> calls) {
-        String want = lookAtHidden(scene.make(), scene.count);
+        String want = lookAtHidden(scene.make(), scene.count());
         for (Call call : calls) {
             DualRing x = scene.make();
             call.make.test(x);
-            due.text(scene.name + ": " + call.name + ", what is hidden", lookAtHidden(x, scene.count), want);
+            due.text(scene.name + ": " + call.name + ", what is hidden", lookAtHidden(x, scene.count()), want);
         }
     }
 

@@ -105,7 +105,8 @@ public final class TermsFrameTest {
     }
 
     private static void thresholdOfEachPriority() {
-        due.sentence("if THT is above 0 and at least the THRESHOLD of its priority: (3 - priority) * T / 4, rounded down");
+        due.sentence("if THT is above 0 and at least the THRESHOLD of its priority: "
+            + "(3 - priority) * T / 4, rounded down");
         int[] quarters = {3, 2, 1};
         for (int t = 4; t <= 60; t++) {
             for (int priority = 0; priority <= 2; priority++) {
@@ -190,7 +191,8 @@ public final class TermsFrameTest {
     }
 
     private static void noSynchronousOneBehindAnAsynchronousOne() {
-        due.sentence("Once it has begun an asynchronous frame, it begins no synchronous one before the token arrives again.");
+        due.sentence("Once it has begun an asynchronous frame, "
+            + "it begins no synchronous one before the token arrives again.");
         DualRing x = Scenes.ringOf(3, 40);
         x.allot(0, 20);
         x.tick(7);
@@ -243,8 +245,8 @@ public final class TermsFrameTest {
     }
 
     private static void targetInTheRing() {
-        due.sentence("if the target is another station of the ring, that has RECEIVED one frame and its length in ticks more, "
-            + "and LAST from this station");
+        due.sentence("if the target is another station of the ring, "
+            + "that has RECEIVED one frame and its length in ticks more, and LAST from this station");
         DualRing x = new DualRing(6);
         x.cable(2, false);
         x.cable(4, false);

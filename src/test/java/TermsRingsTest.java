@@ -269,7 +269,7 @@ public final class TermsRingsTest {
             x.tick(2 * m);
             StringBuilder want = new StringBuilder("-".repeat(m - 1));
             for (int s = 0; s < m; s++) {
-                // The tick in which the token leaves comes before those of the hop, and in the last of these it is there.
+                // The tick in which the token leaves comes before those of the hop; with the last of these it is there.
                 want.append(s).append("-".repeat(s == m - 1 ? m : 1));
             }
             want.append("0-");

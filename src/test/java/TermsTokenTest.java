@@ -12,6 +12,7 @@ public final class TermsTokenTest {
         heardIsTheStationBefore();
         heardIsItselfIfAlone();
         rotationAndSince();
+        rotationIsReckonedInFloats();
         arrivalInTimeOrLate();
         greatestTht();
         allowedIsTheAllotment();
@@ -168,7 +169,8 @@ public final class TermsTokenTest {
     }
 
     private static void rotationAndSince() {
-        due.sentence("its ROTATION becomes ROTATION + (x - ROTATION) * 0.25f, x being SINCE as a float, and SINCE is 0");
+        due.sentence("its ROTATION becomes ROTATION + (x - ROTATION) * 0.25f, "
+            + "x being SINCE as a float, and SINCE is 0");
         DualRing x = Scenes.lone(20);
         x.allot(0, 20);
         x.send(0, 1, 10, 3);
@@ -186,6 +188,26 @@ public final class TermsTokenTest {
             want = want + (2.0f - want) * 0.25f;
             due.real("rotation(0) in round " + i, x.rotation(0), want);
         }
+    }
+
+    private static void rotationIsReckonedInFloats() {
+        due.sentence("ROTATION + (x - ROTATION) * 0.25f, x being SINCE as a float");
+        DualRing x = Scenes.lone(40);
+        x.allot(0, 20);
+        x.tick(3);
+        float want = 0.25f;
+        float rounded = want;
+        // With these rounds x - ROTATION loses digits at last that a double would keep.
+        for (int since : new int[] {8, 2, 2, 2, 2, 2, 2, 6, 2, 5, 13}) {
+            if (since > 2) {
+                sendFor(x, since - 2);
+            }
+            x.tick(since);
+            rounded = (float) ((double) want + ((double) since - (double) want) * 0.25);
+            want = want + ((float) since - want) * 0.25f;
+            due.real("rotation(0) with SINCE " + since, x.rotation(0), want);
+        }
+        due.yes("a double would differ", rounded != want);
     }
 
     private static void arrivalInTimeOrLate() {
